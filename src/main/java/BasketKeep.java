@@ -49,6 +49,7 @@ public final class BasketKeep {
     private final Planner planner = new Planner();
     private final Doubts doubts = new Doubts();
     private final Hurry hurry = new Hurry();
+    private final int[] noSlips = new int[MAX_MAKERS];
     private int lastTrouble = NO_TROUBLE;
 
     public BasketKeep() {
@@ -224,7 +225,7 @@ public final class BasketKeep {
         if (outside(n, 0, LONGEST_SPAN)) {
             return true;
         }
-        outlook.reckon(told, now, n);
+        outlook.reckon(told, now, n, noSlips);
         return false;
     }
 
@@ -243,7 +244,7 @@ public final class BasketKeep {
             return NONE;
         }
         planner.plan(told, now, n);
-        return planner.plannedBasket(told, g);
+        return planner.plannedBasket(g);
     }
 
     public int worthIf(int g, int m, int n) {
@@ -252,7 +253,7 @@ public final class BasketKeep {
         }
         tried.copyFrom(now);
         tried.lies[g] = m;
-        outlook.reckon(told, tried, n);
+        outlook.reckon(told, tried, n, noSlips);
         return outlook.worthLeft;
     }
 
@@ -415,7 +416,7 @@ public final class BasketKeep {
             return NONE;
         }
         hurry.drawSlips(told, now, seed);
-        outlook.reckonSlipped(told, now, n, hurry.slipped);
+        outlook.reckon(told, now, n, hurry.slipped);
         return outlook.worthLeft;
     }
 
@@ -429,7 +430,7 @@ public final class BasketKeep {
         if (noLevel() || refusedIf(now.years >= LAST_YEAR, NO_ROOM)) {
             return NONE;
         }
-        outlook.reckon(told, now, 1);
+        outlook.reckon(told, now, 1, noSlips);
         int newlyLost = outlook.lostBits & ~now.lost;
         history.remember(now);
         now.years++;
@@ -1296,20 +1297,22 @@ public final class BasketKeep {
             wornAfter = lasts > 0 ? NOT_ANY : 0;
             for (int i = 1; i <= span; i++) {
                 int out = (yearsGone + i) % 2 == 0 ? even : odd;
-                if (striking[i] != 0 && !outlastsYear(i, fears, out)) {
+                // What is neither feared nor kept out does nothing.
+                int hits = striking[i] & (fears | out);
+                if (hits != 0 && !outlastsYear(i, hits, fears, out)) {
                     return false;
                 }
             }
             return true;
         }
 
-        private boolean outlastsYear(int i, int fears, int out) {
-            int left = striking[i];
-            for (int d = 0; left != 0 && d < MAX_DANGERS; d++) {
-                int bit = left & 1 << d;
-                left ^= bit;
+        private boolean outlastsYear(int i, int hits, int fears, int out) {
+            for (int d = 0; d < MAX_DANGERS; d++) {
+                int bit = hits & 1 << d;
                 if (lasts > 0 && (out & bit) != 0) {
-                    wear(i);
+                    kept++;
+                    lasts--;
+                    wornAfter = lasts > 0 ? NOT_ANY : i;
                 } else if ((fears & bit) != 0) {
                     lostAfter = i;
                     lostThrough = d;
@@ -1318,20 +1321,11 @@ public final class BasketKeep {
             }
             return true;
         }
-
-        private void wear(int i) {
-            kept++;
-            lasts--;
-            if (lasts == 0) {
-                wornAfter = i;
-            }
-        }
     }
 
     /** What becomes of all goods and baskets. */
     private static final class Outlook {
         private final Walk walk = new Walk();
-        private final int[] nothingSlipped = new int[MAX_MAKERS];
         int worthLeft = 0;
         int lostBits = 0;
         final int[] lostAfter = new int[MAX_GOODS];
@@ -1340,11 +1334,8 @@ public final class BasketKeep {
         final int[] lasts = new int[MAX_MAKERS];
         final int[] kept = new int[MAX_MAKERS];
 
-        void reckon(Level level, State state, int span) {
-            reckonSlipped(level, state, span, nothingSlipped);
-        }
-
-        void reckonSlipped(Level level, State state, int span, int[] slipped) {
+        /** Slipped are thoughts of each maker that his basket never KEEPS OUT. */
+        void reckon(Level level, State state, int span, int[] slipped) {
             worthLeft = 0;
             lostBits = state.lost;
             for (int m = 0; m < level.makers; m++) {
@@ -1426,30 +1417,20 @@ public final class BasketKeep {
     /** LAY, NEST and BESIDES. */
     private static final class Planner {
         private final Walk walk = new Walk();
-        /** For each good, in which baskets it isn't LOST: bit 0 in none, bit m + 1 in that of m. */
+        /** For each good, where it isn't LOST: bit 0 in none, bit m + 1 in the basket of m. */
         private final int[] safe = new int[MAX_GOODS];
+        /** Where each good lies in a row, 0 in none, m + 1 in the basket of m. */
         private final int[] places = new int[MAX_GOODS];
-        private int bestRow = 0;
+        private final int[] bestPlaces = new int[MAX_GOODS];
         int bestWorth = 0;
 
-        /** A row is a number with a digit for each good, the first good's highest: so rows come in their order. */
         void plan(Level level, State state, int span) {
             walk.aim(level, state, span);
-            int rows = 1;
             for (int g = 0; g < level.goods; g++) {
                 safe[g] = state.isLost(g) ? 0 : safePlaces(level, state, g);
-                rows *= level.makers + 1;
             }
-            bestRow = 0;
             bestWorth = NONE;
-            for (int row = 0; row < rows; row++) {
-                spread(level, row);
-                int worth = worthOfPlaces(level, state);
-                if (worth > bestWorth) {
-                    bestWorth = worth;
-                    bestRow = row;
-                }
-            }
+            layRows(this, level, 0, 0, 0);
         }
 
         private int safePlaces(Level level, State state, int g) {
@@ -1462,35 +1443,36 @@ public final class BasketKeep {
             return bits;
         }
 
-        private void spread(Level level, int row) {
-            int base = level.makers + 1;
-            int left = row;
-            for (int g = level.goods - 1; g >= 0 && base > 0; g--) {
-                places[g] = left % base;
-                left /= base;
+        /**
+         * All rows from the good g on, in their order. Where a good would be LOST it needn't lie: the row with it in none
+         * leaves as much and is ahead.
+         */
+        private static void layRows(Planner plan, Level level, int g, int used, int worth) {
+            if (g >= level.goods || g >= MAX_GOODS) {
+                plan.keepIfBetter(worth);
+                return;
+            }
+            for (int place = 0; place <= level.makers; place++) {
+                int bit = 1 << place;
+                if ((plan.safe[g] & ~used & bit) != 0) {
+                    plan.places[g] = place;
+                    layRows(plan, level, g + 1, place == 0 ? used : used | bit, worth + level.worths[g]);
+                } else if (place == 0) {
+                    plan.places[g] = 0;
+                    layRows(plan, level, g + 1, used, worth);
+                }
             }
         }
 
-        /** NONE if two goods share a basket, or a LOST one is laid into one. */
-        private int worthOfPlaces(Level level, State state) {
-            int used = 0;
-            int sum = 0;
-            for (int g = 0; g < level.goods; g++) {
-                int place = places[g];
-                if (place > 0 && ((used >> place & 1) != 0 || state.isLost(g))) {
-                    return NONE;
-                }
-                used |= 1 << place;
-                if ((safe[g] >> place & 1) != 0) {
-                    sum += level.worths[g];
-                }
+        private void keepIfBetter(int worth) {
+            if (worth > bestWorth) {
+                bestWorth = worth;
+                System.arraycopy(places, 0, bestPlaces, 0, MAX_GOODS);
             }
-            return sum;
         }
 
-        int plannedBasket(Level level, int g) {
-            spread(level, bestRow);
-            return places[g] > 0 ? places[g] - 1 : NOT_ANY;
+        int plannedBasket(int g) {
+            return bestPlaces[g] > 0 ? bestPlaces[g] - 1 : NOT_ANY;
         }
 
         int fewestMakers(Level level, State state, int g) {

@@ -229,6 +229,8 @@ public final class CallBoundsTest {
         spanEnds("18", text.replace("29", "30"), x -> x.lastsIn(0, 59), 1, x -> x.lastsIn(0, 60), 0);
         spanEnds("18 none", text, x -> x.lastsIn(0, 0), 29, x -> x.lastsIn(0, 2), 28);
         spanEnds("19", text.replace("29", "30"), x -> x.keptOut(59), 29, x -> x.keptOut(60), 30);
+        String twice = text.replace("29", "30") + ";maker n grave lasts 30 thinks d;good h worth 1 fears d;in h n";
+        spanEnds("19 two baskets", twice, x -> x.keptOut(59), 58, x -> x.keptOut(60), 60);
         spanEnds("19 none", text, x -> x.keptOut(0), 0, x -> x.keptOut(2), 1);
         spanEnds("21", text, x -> x.worst(59), -2, x -> x.worst(60), 0);
         spanEnds("21 none", text.replace("from 2", "from 1").replace("grave", "happy"), x -> x.worst(0), -2, x -> x.worst(1), 0);
@@ -298,6 +300,12 @@ public final class CallBoundsTest {
         Bounds.takes("40 one: no refusal", Bounds::small, x -> x.holds(1, true, true, false), -1);
         Bounds.takes("40 most rust", Bounds::small, x -> x.holds(9, true, true, true), -9);
         for (int rust : new int[] {0, 9}) {
+            Bounds.takes("40 the gate alone: 3", Bounds::small, x -> x.holds(rust, true, false, false), 3);
+            Bounds.takes("40 the man then: 1", Bounds::small, x -> x.holds(rust, true, false, true), 1);
+            Bounds.takes("40 the man alone: 3", Bounds::small, x -> x.holds(rust, false, true, true), 3);
+            Bounds.takes("40 the gate then: 1", Bounds::small, x -> x.holds(rust, false, true, false), 1);
+            Bounds.takes("40 both give: the gate 2", Bounds::small, x -> x.holds(rust, false, false, false), 2);
+            Bounds.takes("40 both give: the man 2", Bounds::small, x -> x.holds(rust, false, false, true), 2);
             Bounds.takes("41 who holds alone rests, either", Bounds::small, x -> x.rests(rust), 2);
             Bounds.takes("42 giving ahead, the gate's first", Bounds::small, x -> x.rest(rust), 1);
         }

@@ -9,6 +9,7 @@ public final class EdgeTest {
         basketsThatLastAsTheyDo();
         goodsInNoBasket();
         bitsOfDangersMakersGoods();
+        worthNow();
         strikesNextBehindNow();
         lostWithin60();
         wornWithin60();
@@ -176,6 +177,16 @@ public final class EdgeTest {
         same("7 he has none more", x.maker(3, 3), -2);
     }
 
+    private static void worthNow() {
+        String text = "level hurry 0;danger a every 9 from 1;maker m grave lasts 9 thinks a;good g worth 99 fears a;good h worth 1 fears a";
+        Bounds.takes("11 before the first year", () -> Check.of(text), x -> x.worth(), 100);
+        Bounds.takes("11 none is left", () -> Bounds.of(text, 1), x -> x.worth(), 0);
+        Bounds.takes("11 of those that aren't lost", () -> Bounds.of(text + ";in h m", 1), x -> x.worth(), 1);
+        Bounds.takes("11 as much as there can be", () -> Check.of(Bounds.WIDE.replaceAll("worth [0-9]+", "worth 99")), x -> x.worth(), 396);
+        Bounds.takes("13 behind none: WORTH NOW", () -> Check.of(text), x -> x.worthIn(0), 100);
+        Bounds.takes("13 behind one", () -> Check.of(text), x -> x.worthIn(1), 0);
+    }
+
     private static void strikesNextBehindNow() {
         String text = one("every 3 from 2", "grave lasts 9", "worth 9");
         int[] due = {2, 2, 5, 5, 5, 8};
@@ -212,6 +223,8 @@ public final class EdgeTest {
         x.year();
         same("17 in the 60th year", x.wornIn(0), 60);
         same("18 none more", x.lastsIn(0, 60), 0);
+        BasketKeep never = Check.of(one("every 2 from 3", "happy lasts 1", "worth 9") + ";in g m");
+        same("17 it lasts for one, and its good is lost before", never.wornIn(0) * 10 + never.lostIn(0), -17);
         BasketKeep y = Check.of(one("every 1 from 1", "grave lasts 1", "worth 9") + ";in g m");
         same("17 in the next year", y.wornIn(0), 1);
         y.year();
@@ -232,6 +245,7 @@ public final class EdgeTest {
         same("21 of like ones the first", x.worst(3), 0);
         same("21 one less", Check.of(text.replace("%", "7")).worst(3), 1);
         same("21 one more", Check.of(text.replace("%", "9")).worst(3), 0);
+        same("21 the least worth", Check.of(one("every 9 from 2", "hasty lasts 1", "worth 1")).worst(2), 0);
         x.year();
         same("21 what is lost NOW counts no more", x.worst(1), 2);
         x.year();
@@ -340,6 +354,13 @@ public final class EdgeTest {
         same("27 a hasty one of one thought: two", Check.of(text.replace("%", "hasty").replace("!", "b")).besides(0, 1), 5);
         same("27 a happy one in year 1: by none", Check.of(text.replace("%", "happy").replace("!", "a, b")).besides(0, 1), -2);
         same("27 no years: none", Check.of(text.replace("%", "happy").replace("!", "c")).besides(0, 0), 0);
+        BasketKeep nothing = Check.of(text.replace("%", "grave").replace("!", "a, b").replace("fears a, b", "fears a, b, c"));
+        nothing.think(0, 0);
+        nothing.think(0, 1);
+        same("27 he thinks of nothing: all that there are but the last", nothing.besides(0, 15), 3);
+        BasketKeep all = Check.of("level hurry 0;danger a every 9 from 1;danger b every 9 from 1;maker m grave lasts 2 thinks a;good g worth 1 fears a, b;in g m");
+        all.think(0, 0);
+        same("27 all that there are", all.besides(0, 9), 3);
         String like = "level hurry 0;danger a every 1 from 9;danger b every 1 from 1;danger c every 1 from 9;danger d every 1 from 9;maker m hasty lasts 30 thinks b;good g worth 1 fears b;in g m";
         same("27 of like ones the least bits", Check.of(like).besides(0, 8), 4);
         Bounds.refuses("27 in no basket", Bounds::farm, x -> x.besides(1, 0), Bounds.NOT_SO);
@@ -365,6 +386,17 @@ public final class EdgeTest {
             x.think(0, d);
         }
         same("29 all that the other four don't think of", x.open(), 32 + 64);
+        for (int d = 0; d < 8; d++) {
+            x.think(0, d);
+        }
+        same("29 the first thinks of all", x.open(), 0);
+        String second = "level hurry 0;danger a every 1 from 1;danger b every 1 from 1;maker m grave lasts 1 thinks a;good g worth 1 fears b";
+        same("29 the first danger isn't feared", Check.of(second).open(), 2);
+        same("29 nor thought of", Check.of(second.replace("thinks a", "thinks b")).open(), 0);
+        x = Bounds.wide0();
+        for (int d = 0; d < 8; d++) {
+            x.think(0, d);
+        }
         same("28 nothing more", x.vain(0), 0);
     }
 
@@ -382,6 +414,13 @@ public final class EdgeTest {
         same("30 half of them", y.fits() * 100 + y.could(), 815);
         same("33 the first in all", y.surely(), 1);
         same("31 the last", y.fitAt(7), 15);
+        // If s thinks of d, too, his basket keeps c out in 25 and d in 26; if it lasts for two, x is lost in 35.
+        BasketKeep both = Check.of(four.replace("s grave lasts 27", "s grave lasts 2") + ";befell x year 35;befell u year 23");
+        same("33 the first and the last in all", both.fits() * 100 + both.surely(), 409);
+        BasketKeep worn = Check.of(four.replace("s grave lasts 27", "s grave lasts 1") + ";befell x year 35;befell u year 23");
+        same("30 worn by c: lost in 26, whatever he thinks", worn.fits() * 100 + worn.surely(), 0);
+        Check.tell(both, Bounds.SMALL);
+        same("30 of the level that stands", both.fits() * 100 + both.could() * 10 + both.surely(), 100);
         BasketKeep z = Check.of(Bounds.SMALL + ";befell g year 3");
         same("30 the empty set alone", z.fits() * 100 + z.could() * 10 + z.surely(), 100);
         same("31 it is 0", z.fitAt(0), 0);
@@ -456,6 +495,8 @@ public final class EdgeTest {
         same("44 the largest upper one", Check.of(eight).mean(0, 1, false), 913517247483640899L);
         same("44 its lower one", Check.of(eight).mean(0, 1, true), 10000000000000000L);
         ratio("43 worn by the seventh", Check.of(eight.replace("lasts 8", "lasts 7")), 1, 0, 1);
+        String second = "level hurry 10;danger a every 1 from 1;danger b every 1 from 1;maker m grave lasts 30 thinks b;good g worth 1 fears b;in g m";
+        ratio("43 of his thoughts alone", Check.of(second), 30, 9, 10);
         String hasty = "level hurry 10;danger a every 1 from 1;danger b every 1 from 1;maker m hasty lasts 30 thinks a, b;good g worth 1 fears a;in g m";
         ratio("43 the highest of a hasty one is by all he thinks of", Check.of(hasty), 30, 9, 10);
         ratio("43 the highest is never kept out", Check.of(hasty.replace("fears a", "fears b")), 1, 0, 1);

@@ -137,6 +137,13 @@ public final class TextBoundsTest {
         same("3 what stood behind them is gone, too", v.size(10) + v.size(4), 0);
         Check.feed(v, G);
         same("3 and the next begins anew", v.level(G.length()), 1);
+        String year = G + ";befell g year 4";
+        Check.feed(v, year + "1");
+        same("3 a digit behind the first n", v.level(year.length()), 1);
+        Check.feed(v, G + "d");
+        same("3 a letter behind the first n", v.level(G.length()), 1);
+        Check.feed(v, "level hurry 101");
+        same("3 two digits of three", v.level(14) * 100 + v.fault() * 10 - v.where(), -54);
         same("3 the 1st byte alone", Check.tell(v, "l") * 100 + v.fault() * 10 + v.where(), -90);
     }
 
