@@ -1,4 +1,3 @@
-import java.util.NoSuchElementException;
 import java.util.Random;
 
 /** Long runs of calls, drawn by a seed, whose every answer must be the plain oracle's. */
@@ -73,7 +72,7 @@ public final class OracleTest {
                 Check.same(at + " size " + what, x.size(what), o.size(what));
             }
             int i = random.nextInt(6) - 1;
-            Check.same(at + " led " + i, led(x, i), o.led(i));
+            Check.same(at + " led " + i, Bounds.led(x, i), o.led(i));
             return;
         }
         String name = Oracle.CALLS.get(1 + random.nextInt(Oracle.CALLS.size() - 1));
@@ -102,18 +101,6 @@ public final class OracleTest {
         long due = o.call(name, a, b, c, d);
         Check.same(call, call(x, name, a, b, c, d), due);
         after(x, o, call);
-    }
-
-    private static int led(BasketKeep x, int i) {
-        try {
-            return x.led(i);
-        } catch (NoSuchElementException e) {
-            return -7;
-        }
-    }
-
-    private static int one(boolean so) {
-        return so ? 1 : 0;
     }
 
     private static long call(BasketKeep x, String name, int a, int b, int c, int d) {
@@ -163,10 +150,10 @@ public final class OracleTest {
             case "put" -> x.put(a, b);
             case "take" -> x.take(a);
             case "think" -> x.think(a, b);
-            case "mend" -> one(x.mend(a));
-            case "undo" -> one(x.undo());
+            case "mend" -> Bounds.one(x.mend(a));
+            case "undo" -> Bounds.one(x.undo());
             case "image" -> x.image();
-            case "back" -> one(x.back(a));
+            case "back" -> Bounds.one(x.back(a));
             default -> throw new IllegalArgumentException(name);
         };
     }

@@ -1,16 +1,7 @@
-import java.util.NoSuchElementException;
-
 /** One method for each promise: ordinary inputs, the edges that the document names, and wrong inputs. */
 public final class PromiseTest {
-    /** Egg in abe's basket, hat in cal's, pear in none. */
-    private static final String FARM = "level hurry 50;danger rain every 2 from 1;danger frost every 3 from 2;"
-        + "danger wasp every 4 from 4;danger rot every 9 from 30;maker abe grave lasts 3 thinks rain, wasp;"
-        + "maker bea hasty lasts 9 thinks rain, frost;maker cal happy lasts 5 thinks frost, wasp, rot;"
-        + "good egg worth 10 fears rain, frost;good pear worth 7 fears wasp;good hat worth 5 fears rain;"
-        + "in egg abe;in hat cal;unsure abe frost;unsure cal rain;befell egg year 2;befell hat year 1";
-    /** One danger that strikes each year, and a basket for two of them. */
-    private static final String SMALL = "level hurry 0;danger d every 1 from 1;maker m grave lasts 2 thinks d;"
-        + "good g worth 9 fears d;in g m";
+    private static final String FARM = Bounds.FARM;
+    private static final String SMALL = Bounds.SMALL;
     private static final int NONE = BasketKeep.NONE;
 
     public static void main(String[] args) {
@@ -816,25 +807,17 @@ public final class PromiseTest {
         Check.refused(x, "54 gone with the level", () -> x.back(0) ? 1 : 0, 0, 1);
     }
 
-    private static int led(BasketKeep x, int i) {
-        try {
-            return x.led(i);
-        } catch (NoSuchElementException e) {
-            return -7;
-        }
-    }
-
     private static void promise55Led() {
         BasketKeep x = Check.of(FARM);
-        same("55 none", led(x, 0), -7);
+        same("55 none", Bounds.led(x, 0), -7);
         x.year();
-        same("55 the hat", led(x, 0), 2);
-        same("55 no more", led(x, 1), -7);
+        same("55 the hat", Bounds.led(x, 0), 2);
+        same("55 no more", Bounds.led(x, 1), -7);
         x.year();
-        same("55 by numbers", led(x, 0) * 10 + led(x, 1), 2);
-        same("55 -1", led(x, -1), -7);
-        same("55 far", led(x, Integer.MAX_VALUE), -7);
-        same("55 no level", led(new BasketKeep(), 0), -7);
+        same("55 by numbers", Bounds.led(x, 0) * 10 + Bounds.led(x, 1), 2);
+        same("55 -1", Bounds.led(x, -1), -7);
+        same("55 far", Bounds.led(x, Integer.MAX_VALUE), -7);
+        same("55 no level", Bounds.led(new BasketKeep(), 0), -7);
     }
 
     private static void promise56Size() {
@@ -860,7 +843,7 @@ public final class PromiseTest {
         x.size(99);
         x.fault();
         x.where();
-        led(x, 9);
+        Bounds.led(x, 9);
         x.feed(0, 0, 0, 0, 0);
         same("57 of the latest that may be refused", x.trouble(), 2);
         same("57 telling it changes nothing", x.trouble(), 2);
