@@ -33,6 +33,7 @@ public final class EdgeTest {
         undoSixteen();
         imagesOfAll();
         ledByNumbers();
+        nothingIsLeftOver();
         Check.end("EdgeTest");
     }
 
@@ -352,6 +353,9 @@ public final class EdgeTest {
         same("27 by none, as it is worn then", Check.of(text.replace("%", "grave").replace("!", "a, b")).besides(0, 16), -2);
         same("27 a hasty one: the highest besides", Check.of(text.replace("%", "hasty").replace("!", "a, b")).besides(0, 15), 4);
         same("27 a hasty one of one thought: two", Check.of(text.replace("%", "hasty").replace("!", "b")).besides(0, 1), 5);
+        same("27 a hasty one who thinks of all that there are: by none", Check.of(one("every 9 from 1", "hasty lasts 9", "worth 1") + ";in g m").besides(0, 1), -2);
+        same("27 a hasty one, the last is the highest", Check.of(text.replace("%", "hasty").replace("!", "a, b, c").replace("from 30", "from 1")
+            .replace("fears a, b", "fears c")).besides(0, 1), -2);
         same("27 a happy one in year 1: by none", Check.of(text.replace("%", "happy").replace("!", "a, b")).besides(0, 1), -2);
         same("27 no years: none", Check.of(text.replace("%", "happy").replace("!", "c")).besides(0, 0), 0);
         BasketKeep nothing = Check.of(text.replace("%", "grave").replace("!", "a, b").replace("fears a, b", "fears a, b, c"));
@@ -699,5 +703,47 @@ public final class EdgeTest {
         Bounds.setTrouble(x, Bounds.NUMBER);
         Bounds.led(x, 9);
         same("55 no number is told of it", x.trouble(), Bounds.NUMBER);
+    }
+
+    /** Answers of all sorts, the longer spans behind the shorter ones and the other way round. */
+    private static String answers(BasketKeep x) {
+        StringBuilder all = new StringBuilder(Bounds.shown(x));
+        for (int n : new int[] {1, 30, 4, 29, 2}) {
+            all.append(" lay ").append(x.lay(n)).append(' ').append(row(x, n)).append(" span ").append(x.worthIn(n)).append(' ').append(x.lost(n));
+            all.append(' ').append(x.keptOut(n)).append(' ').append(x.busiest(n)).append(' ').append(x.worst(n)).append(' ').append(x.drawn(n, n));
+            for (int g = 0; g < x.size(3); g++) {
+                all.append(" good ").append(x.lostIn(g)).append(' ').append(x.lostBy(g)).append(' ').append(x.nest(g)).append(' ').append(x.besides(g, n));
+                all.append(' ').append(x.odds(g, n, false)).append('/').append(x.odds(g, n, true));
+                all.append(' ').append(x.mean(g, n, false)).append('/').append(x.mean(g, n, true)).append(' ').append(x.worthIf(g, 0, n));
+            }
+            for (int m = 0; m < x.size(2); m++) {
+                all.append(" maker ").append(x.wornIn(m)).append(' ').append(x.lastsIn(m, n)).append(' ').append(x.vain(m)).append(' ').append(x.keepsOut(m, n));
+            }
+        }
+        all.append(" thoughts ").append(x.fits()).append(' ').append(x.could()).append(' ').append(x.surely()).append(' ').append(x.ask());
+        all.append(' ').append(x.askLeaves()).append(' ').append(x.judge()).append(' ').append(x.open()).append(' ').append(x.slips(7));
+        return all.toString();
+    }
+
+    /** A level, or what was asked before, leaves nothing to the next one. */
+    private static void nothingIsLeftOver() {
+        String untold = Bounds.FARM.replace("thinks rain, wasp", "thinks rain").replace("thinks frost, wasp, rot", "thinks frost, rot");
+        String[] texts = {Bounds.WIDE, Bounds.FARM, Bounds.SMALL, untold, Bounds.FARM.replaceAll(";(in|unsure|befell)[a-z 0-9]*", "")};
+        for (String text : texts) {
+            String due = answers(Check.of(text));
+            for (String before : texts) {
+                BasketKeep x = Check.of(before);
+                answers(x);
+                x.image();
+                x.year();
+                x.think(0, 0);
+                x.take(0);
+                same("3 the level stands", Check.tell(x, text) > 0 ? 1 : 0, 1);
+                Check.same("3 all answers as of a new object: " + text + ", before it " + before, answers(x).equals(due), true);
+                Check.same("3 and once more", answers(x).equals(due), true);
+                Check.tell(x, before + ";");
+                Check.same("3 and behind a fault: " + text + ", refused " + before, answers(x).equals(due), true);
+            }
+        }
     }
 }
