@@ -112,5 +112,20 @@ public final class FaceTest {
             Check.same("throw " + thrown.group(1), thrown.group(1).equals("new NoSuchElementException()"), true);
         }
         Check.same("throws in the source", count, 1);
+        checkRoom(code);
+    }
+
+    /** All calls live in one room: rows are made with the object that has them, and by no call. */
+    private static void checkRoom(String code) {
+        for (String line : code.split("\n")) {
+            if (line.matches(".*\\bnew\\b.*")) {
+                boolean ofField = line.matches("\\s*(private )?final [A-Za-z\\[\\]]+ [A-Za-z]+ = new [^;]*;\\s*");
+                boolean thrown = line.matches("\\s*throw new [^;]*;\\s*");
+                Check.same("made by a call: " + line.trim(), ofField || thrown, true);
+            }
+        }
+        for (String maker : new String[] {"StringBuilder", "ArrayList", "clone(", "copyOf", "toCharArray", "substring", "values("}) {
+            Check.same("'" + maker + "' in the source", code.contains(maker), false);
+        }
     }
 }
